@@ -193,10 +193,13 @@ public final class NearFigures {
         if (n > 0 && !now.has(f)) {
             return UNKNOWN;
         }
-        if (n < 0 || (n > 0 && n > now.figures - f)) {
+        if (n == 0) {
+            return 1;
+        }
+        if (n < 0 || n > now.figures - f) {
             return OUTSIDE;
         }
-        return n == 0 || now.standTogether(f, n) ? 1 : 0;
+        return now.standTogether(f, n) ? 1 : 0;
     }
 
     public long ways() {
