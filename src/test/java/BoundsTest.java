@@ -471,6 +471,38 @@ public final class BoundsTest {
         Cases.due("goBack(1)", x.goBack(1), 10);
     }
 
+    /** Every call that only asks, with arguments that are right where there are such figures, pages and lines. */
+    static final List<Cases.Call> ASKED = List.of(x -> x.told(8), x -> x.told(10), x -> x.told(12), x -> x.told(13),
+        x -> x.figureOf(0, 4), x -> x.figureOf(1, 5), x -> x.figureOf(1, 6), x -> x.figureOf(1, 7), x -> x.page(0, 1), x -> x.page(1, 5),
+        x -> x.pageOf(0), x -> x.pageOf(39), x -> x.fits(0, 2), NearFigures::ways, x -> x.without(0), x -> x.moved(0, 39),
+        x -> x.from(0, 0, 0), x -> x.from(20, 0, 1), x -> x.judge(0), x -> x.judge(1));
+
+    static void askedChangesNothing() {
+        Cases.sentence("3", "ASKED (nothing changes)");
+        for (Cases.Steps state : STATES) {
+            for (int k = 0; k < ASKED.size(); k++) {
+                Cases.stays(state, "asked " + k, ASKED.get(k), ASKED.get(k).on(Cases.after(state)));
+            }
+        }
+    }
+
+    /** What was asked ahead of a change must not be answered again behind it. */
+    static void askedBehindEachChange() {
+        Cases.sentence("3", "what is asked first behind a change is of what is so then");
+        List<Cases.Call> changes = List.of(x -> x.layout(0, 30), x -> x.layout(3, 3), x -> x.layout(5, 1), x -> x.figure(0, 6, 1, 9, 9),
+            x -> x.drop(0), x -> x.mention(0, 19), x -> x.drift(4, 77), NearFigures::undo, x -> x.goBack(0), x -> x.keep(0));
+        for (Cases.Steps state : STATES) {
+            for (int c = 0; c < changes.size(); c++) {
+                for (int k = 0; k < ASKED.size(); k++) {
+                    NearFigures asked = Cases.after(state), fresh = Cases.after(state);
+                    ASKED.get(k).on(asked);
+                    Cases.due("change " + c, changes.get(c).on(asked), changes.get(c).on(fresh));
+                    Cases.due("asked " + k + " behind change " + c, ASKED.get(k).on(asked), ASKED.get(k).on(fresh));
+                }
+            }
+        }
+    }
+
     static void constants() {
         Cases.sentence("terms", "NONE is -1; refusals are -1000000001 and on");
         Cases.due("NONE", NearFigures.NONE, -1);
@@ -503,6 +535,8 @@ public final class BoundsTest {
         hand();
         judge();
         images();
+        askedChangesNothing();
+        askedBehindEachChange();
         Cases.end();
     }
 }

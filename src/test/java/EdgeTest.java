@@ -290,6 +290,43 @@ public final class EdgeTest {
         Cases.due("COST of an early one", x.figureOf(0, 6), 4);
     }
 
+    static void mentionedAtAPagesEnd() {
+        Cases.sentence("3", "WAITING: mentioned on the PAGE's last LINE, not on the next PAGE's first");
+        NearFigures x = new NearFigures();
+        x.figure(0, 4, 0, 19, 1);
+        Cases.best(x, 1, 0, 1, 0);
+        Cases.due("page(0, 5)", x.page(0, 5), 1);
+        x.mention(0, 20);
+        Cases.best(x, 0, 0, 1, 0);
+        Cases.due("page(0, 5)", x.page(0, 5), 0);
+        Cases.sentence("3", "EARLY ones: not mentioned on the PAGE's last LINE, but on the next PAGE's first");
+        x = new NearFigures();
+        x.layout(5, 1);
+        x.figure(0, 4, 0, 12, 1);
+        x.figure(1, 4, 0, 0, 9);
+        Cases.best(x, 1, 2, 0, 0);
+        Cases.due("page(0, 6)", x.page(0, 6), 1);
+        x.mention(0, 11);
+        Cases.best(x, 0, 2, 0, 0);
+        Cases.due("page(0, 6)", x.page(0, 6), 0);
+    }
+
+    static void waysAskedFirst() {
+        Cases.sentence("P13", "WAYS (0: no PLAN), asked first behind each change");
+        NearFigures x = new NearFigures();
+        Cases.due("a new object", x.ways(), 1);
+        x.figure(0, 4, 0, 19, 1);
+        Cases.due("late alone", x.ways(), 1);
+        x.layout(5, 1);
+        Cases.due("late or early", x.ways(), 2);
+        x.layout(3, 3);
+        Cases.due("no PLAN", x.ways(), 0);
+        x.undo();
+        Cases.due("undone", x.ways(), 2);
+        x.mention(0, 0);
+        Cases.due("on its PAGE", x.ways(), 1);
+    }
+
     static void fewestPagesOfLikeOnes() {
         Cases.sentence("2", "of like ones of fewest PAGES, though another has fewer FIGURES on its first");
         NearFigures x = new NearFigures();
@@ -366,6 +403,8 @@ public final class EdgeTest {
             Cases.due("its PAGE in GREEDY", y.figureOf(0, 7), 2);
             Cases.due("its PAGE in GREEDY", y.figureOf(1, 7), 2);
             Cases.due("COST of BEST", y.told(8), early == 1 ? 2 : 19);
+            Cases.due("its PAGE in BEST", y.figureOf(0, 4), early == 1 ? 0 : 2);
+            Cases.due("its PAGE in BEST", y.figureOf(1, 4), early == 1 ? 0 : 2);
         }
         Cases.sentence("2", "GREEDY: the most, so that a mention on the last LINE that has room is taken, the next is not");
         x = new NearFigures();
@@ -395,6 +434,11 @@ public final class EdgeTest {
         Cases.due("6 on PAGE 1, 3 on PAGE 2", x.told(13), 1);
         x.figure(3, 1, 0, 0, 3);
         Cases.due("3 on PAGE 3", x.told(13), 3);
+        Cases.sentence("3", "HEAVY: the first FIGURE, by the least that one can cost");
+        x = new NearFigures();
+        x.figure(0, 4, 0, 19, 1);
+        Cases.due("COST", x.told(8), 1);
+        Cases.due("HEAVY", x.told(13), 0);
     }
 
     static void withoutAndMoved() {
@@ -700,6 +744,8 @@ public final class EdgeTest {
         endOfAPlan();
         tenWait();
         tenEarly();
+        mentionedAtAPagesEnd();
+        waysAskedFirst();
         fewestPagesOfLikeOnes();
         aFigureThatDoesNotFitAlone();
         greedy();
